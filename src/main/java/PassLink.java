@@ -565,12 +565,12 @@ public final class PassLink {
 
     /** A ground station, with what has happened at it so far. */
     private static final class Station {
-        int longitude = 0;
-        int reach = 0;
-        int length = 1;
-        int phase = 0;
-        int rate = 1;
-        int loss = 0;
+        int longitude;
+        int reach;
+        int length;
+        int phase;
+        int rate;
+        int loss;
         final int[] figures = new int[STATION_FIGURES];
 
         void copyFrom(Station other) {
@@ -586,10 +586,10 @@ public final class PassLink {
 
     /** The orbit and the stations: all that passes depend on. */
     private static final class Sky {
-        int period = 90;
-        int shift = 24;
-        int node = 0;
-        int count = 0;
+        int period;
+        int shift;
+        int node;
+        int count;
         final Station[] stations = new Station[MOST_STATIONS];
         /** The stations in the order in which their passes of one orbit begin. */
         final int[] byPhase = new int[MOST_STATIONS];
@@ -816,12 +816,12 @@ public final class PassLink {
 
     /** What can be set beside the orbit and the stations. */
     private static final class Rules {
-        int groundDelay = 60;
-        int patience = 1000;
-        int freshLimit = 30;
-        int freshBonus = 5;
-        int memory = 300;
-        int policy = STAY;
+        int groundDelay;
+        int patience;
+        int freshLimit;
+        int freshBonus;
+        int memory;
+        int policy;
 
         void becomeNew() {
             groundDelay = 60;
@@ -844,15 +844,15 @@ public final class PassLink {
 
     /** A record on board and what the archive has of it; sets of frames are bit masks. */
     private static final class DataRecord {
-        int size = 0;
-        int priority = 0;
-        int added = 0;
-        int toSend = 0;
-        int underWay = 0;
-        int acknowledged = 0;
-        int archived = 0;
-        int delivered = NONE;
-        int released = NONE;
+        int size;
+        int priority;
+        int added;
+        int toSend;
+        int underWay;
+        int acknowledged;
+        int archived;
+        int delivered;
+        int released;
         final int[] lastContacts = new int[MOST_FRAMES];
 
         void becomeNew(int newSize, int newPriority, int time) {
@@ -924,11 +924,11 @@ public final class PassLink {
 
     /** A contact; its rows hold a mask of frames for each record. */
     private static final class Contact {
-        int number = NONE;
-        int station = NONE;
-        int begin = NONE;
-        int end = NONE;
-        int report = REPORT_AWAITED;
+        int number;
+        int station;
+        int begin;
+        int end;
+        int report;
         final int[] sent = new int[MOST_RECORDS];
         final int[] received = new int[MOST_RECORDS];
 
@@ -975,14 +975,14 @@ public final class PassLink {
         final Sky sky = new Sky();
         final Rules rules = new Rules();
         final DataRecord[] records = new DataRecord[MOST_RECORDS];
-        int recordsSoFar = 0;
+        int recordsSoFar;
         /** The contact k stands at the place k modulo MOST_CONTACTS. */
         final Contact[] contacts = new Contact[MOST_CONTACTS];
-        int contactsSoFar = 0;
+        int contactsSoFar;
         final int[] figures = new int[FIGURES];
-        int handoversSoFar = 0;
-        int now = 0;
-        int randomState = 1;
+        int handoversSoFar;
+        int now;
+        int randomState;
 
         Simulation() {
             for (int number = 0; number < MOST_RECORDS; number++) {
@@ -991,9 +991,10 @@ public final class PassLink {
             for (int number = 0; number < MOST_CONTACTS; number++) {
                 contacts[number] = new Contact();
             }
+            becomeNew();
         }
 
-        /** Records and contacts beyond the counts are made new when they are taken. */
+        /** Stations, records and contacts beyond the counts are made new when they are taken. */
         void becomeNew() {
             sky.becomeNew();
             rules.becomeNew();

@@ -45,6 +45,8 @@ public final class PredictionsTest {
         Check.is("and its end", x.passEnd(0, 70), 4206);
         Check.is("and behind it", x.passEnd(0, 71), 71 * 60 + 5 + 6);
         Check.is("the last orbit", x.passBegin(0, 999), -1);
+        Check.is("its end", x.passEnd(0, 999), -1);
+        Check.is("its frames", x.passFrames(0, 999), 0);
         Check.is("13 times round", x.passBegin(1, 937), 937 * 60 + 10);
     }
 

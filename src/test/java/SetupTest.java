@@ -5,6 +5,8 @@ public final class SetupTest {
         wrongBuffer();
         statements();
         everythingIsReplaced();
+        nothingIsLeftOver();
+        bytesBehindTheCut();
         blanksAndNumbers();
         notAllowed();
         outOfRange();
@@ -106,7 +108,51 @@ public final class SetupTest {
         Check.is("only what was sent since", x.contactTotal(0, false), 1);
     }
 
+    /** Trials and earlier loads leave nothing behind in what a load makes. */
+    private static void nothingIsLeftOver() {
+        PassLink x = Scenes.busy();
+        x.bestPolicy(300);
+        x.truncateText(0);
+        String text = "station 0 90 30 0 1 0; station 0 90 30 0 1 0; record 24 1; record 24 1; record 24 1;";
+        Check.load(x, text);
+        PassLink y = Check.loaded(text);
+        x.save(0);
+        x.save(1);
+        y.save(0);
+        y.save(1);
+        Check.is("no figures", x.stationFigure(0, 0) + x.stationFigure(0, 1) + x.stationFigure(1, 2), 0);
+        Check.is("nothing under way", x.frames(0, 1) + x.frames(1, 1) + x.frames(2, 1), 0);
+        Check.is("nothing archived", x.frames(0, 3) + x.frames(1, 2) + x.sentIn(1, 0), -1);
+        Check.is("state", View.of(x), View.of(y));
+        PassLink z = Scenes.steady(0, 30, 1);
+        z.addRecord(24, 0);
+        z.deliveryForecast(0);
+        Check.load(z, "record 24 0;");
+        Check.is("nothing under way by a forecast", z.frames(0, 1), 0);
+    }
+
+    private static void bytesBehindTheCut() {
+        PassLink x = new PassLink();
+        Check.append(x, "ground 99999;", 0);
+        x.truncateText(9);
+        Check.is("no semicolon", x.load(), -1);
+        Check.is("at the cut", x.errorPosition(), 9);
+        Check.append(x, "ground 99999;", 0);
+        x.truncateText(9);
+        Check.append(x, ";", 9);
+        Check.is("two digits", x.load(), 1);
+        Check.is("of the delay", x.setGroundDelay(0), 99);
+        StringBuilder text = new StringBuilder();
+        for (int n = 0; n < 400; n++) {
+            text.append(n < 6 ? "ground".charAt(n) : '0');
+        }
+        Check.is("a number up to the last byte", Check.load(x, text.toString()), -1);
+        Check.is("and the end", x.errorPosition(), 400);
+    }
+
     private static void blanksAndNumbers() {
+        errorIs("ground 0;", 0, -1);
+        errorIs("patience 1;", 0, -1);
         errorIs("record1 2;", 0, -1);
         errorIs("\n record\n1\n\n2 ; \n", 0, -1);
         errorIs("record 0000000000000000000000000001 00;", 0, -1);
@@ -134,6 +180,9 @@ public final class SetupTest {
         errorIs("grounds 1;", 1, 0);
         errorIs("groun 1;", 1, 0);
         errorIs("g 1;", 1, 0);
+        errorIs("xround 1;", 1, 0);
+        errorIs("groundz 1;", 1, 0);
+        errorIs("agroundz 1;", 1, 0);
         errorIs("policy 0;", 1, 7);
         errorIs("policy stays;", 1, 7);
         errorIs("policy record;", 1, 7);
