@@ -11,22 +11,37 @@ final class Check {
     }
 
     private static int wrong = 0;
+    /** What the present test is about, ahead of each of its messages. */
+    private static String subject = "";
 
     private Check() {
+    }
+
+    static void about(String newSubject) {
+        subject = newSubject;
     }
 
     static void is(String what, Object got, Object due) {
         if (!Objects.equals(got, due)) {
             wrong++;
-            System.out.println(what + " answered " + got + ", due is " + due);
+            System.out.println(subject + what + " answered " + got + ", due is " + due);
         }
     }
 
     /** A call that is refused throws exactly this exception, and leaves all answers as they were. */
-    static void refuses(String what, Class<?> due, Scene scene, Call call) {
-        PassLink link = scene.make();
-        is(what, thrownBy(link, call), due.getSimpleName());
-        is(what + ": the state behind it", View.of(link), View.of(scene.make()));
+    static void refuses(String what, Class<? extends RuntimeException> due, Scene scene, Call call) {
+        for (Look look : Look.values()) {
+            PassLink link = scene.make();
+            is(what, thrownBy(link, call), due.getSimpleName());
+            is(what + ": behind it " + look, look.at(() -> link), look.atKnown(scene));
+        }
+    }
+
+    /** Two objects answer alike, whatever is asked. */
+    static void same(String what, Scene got, Scene due) {
+        for (Look look : Look.values()) {
+            is(what + ": " + look, look.at(got), look.at(due));
+        }
     }
 
     static String thrownBy(PassLink link, Call call) {

@@ -42,7 +42,7 @@ public final class ContactsTest {
 
     private static void wrongAdvance() {
         for (int minutes : new int[] {0, -1, 1441, Integer.MIN_VALUE, Integer.MAX_VALUE}) {
-            Check.refuses("advance", IllegalArgumentException.class, Scenes::busy, l -> l.advance(minutes));
+            Check.refuses("advance", IllegalArgumentException.class, Scenes.BUSY, l -> l.advance(minutes));
         }
     }
 
@@ -352,7 +352,7 @@ public final class ContactsTest {
         x.advance(100);
         Check.is("a later one", x.lastContact(1), 4);
         for (int station : new int[] {-1, 2, Integer.MAX_VALUE}) {
-            Check.refuses("station", IndexOutOfBoundsException.class, Scenes::busy, l -> l.lastContact(station));
+            Check.refuses("station", IndexOutOfBoundsException.class, Scenes.BUSY, l -> l.lastContact(station));
         }
     }
 
@@ -363,11 +363,11 @@ public final class ContactsTest {
                 l -> l.contactEnd(contact), l -> l.reportState(contact), l -> l.contactFrames(contact, 0, true),
                 l -> l.contactTotal(contact, false)};
             for (Check.Call call : calls) {
-                Check.refuses("contact " + contact, IndexOutOfBoundsException.class, Scenes::busy, call);
+                Check.refuses("contact " + contact, IndexOutOfBoundsException.class, Scenes.BUSY, call);
             }
         }
         for (int record : new int[] {-1, 3, 40}) {
-            Check.refuses("record", IndexOutOfBoundsException.class, Scenes::busy, l -> l.contactFrames(0, record, true));
+            Check.refuses("record", IndexOutOfBoundsException.class, Scenes.BUSY, l -> l.contactFrames(0, record, true));
         }
     }
 }

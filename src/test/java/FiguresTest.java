@@ -192,14 +192,14 @@ public final class FiguresTest {
 
     private static void wrongFigures() {
         for (int what : new int[] {-1, 8, Integer.MIN_VALUE, Integer.MAX_VALUE}) {
-            Check.refuses("figure", IllegalArgumentException.class, Scenes::busy, l -> l.figure(what));
+            Check.refuses("figure", IllegalArgumentException.class, Scenes.BUSY, l -> l.figure(what));
         }
         for (int what : new int[] {-1, 5}) {
-            Check.refuses("station's", IllegalArgumentException.class, Scenes::busy, l -> l.stationFigure(0, what));
+            Check.refuses("station's", IllegalArgumentException.class, Scenes.BUSY, l -> l.stationFigure(0, what));
         }
         for (int station : new int[] {-1, 2, Integer.MAX_VALUE}) {
-            Check.refuses("station", IndexOutOfBoundsException.class, Scenes::busy, l -> l.stationFigure(station, 0));
-            Check.refuses("station first", IndexOutOfBoundsException.class, Scenes::busy,
+            Check.refuses("station", IndexOutOfBoundsException.class, Scenes.BUSY, l -> l.stationFigure(station, 0));
+            Check.refuses("station first", IndexOutOfBoundsException.class, Scenes.BUSY,
                     l -> l.stationFigure(station, 5));
         }
     }

@@ -67,17 +67,17 @@ public final class PredictionsTest {
 
     private static void wrongPasses() {
         for (int station : NO_STATION) {
-            Check.refuses("begin", IndexOutOfBoundsException.class, Scenes::busy, l -> l.passBegin(station, 0));
-            Check.refuses("end", IndexOutOfBoundsException.class, Scenes::busy, l -> l.passEnd(station, 0));
-            Check.refuses("frames", IndexOutOfBoundsException.class, Scenes::busy, l -> l.passFrames(station, 0));
-            Check.refuses("station first", IndexOutOfBoundsException.class, Scenes::busy, l -> l.passBegin(station, -1));
-            Check.refuses("station first", IndexOutOfBoundsException.class, Scenes::busy, l -> l.passEnd(station, -1));
-            Check.refuses("station first", IndexOutOfBoundsException.class, Scenes::busy, l -> l.passFrames(station, -1));
+            Check.refuses("begin", IndexOutOfBoundsException.class, Scenes.BUSY, l -> l.passBegin(station, 0));
+            Check.refuses("end", IndexOutOfBoundsException.class, Scenes.BUSY, l -> l.passEnd(station, 0));
+            Check.refuses("frames", IndexOutOfBoundsException.class, Scenes.BUSY, l -> l.passFrames(station, 0));
+            Check.refuses("station first", IndexOutOfBoundsException.class, Scenes.BUSY, l -> l.passBegin(station, -1));
+            Check.refuses("station first", IndexOutOfBoundsException.class, Scenes.BUSY, l -> l.passEnd(station, -1));
+            Check.refuses("station first", IndexOutOfBoundsException.class, Scenes.BUSY, l -> l.passFrames(station, -1));
         }
         for (int orbit : new int[] {-1, 1000, Integer.MIN_VALUE, Integer.MAX_VALUE}) {
-            Check.refuses("begin", IllegalArgumentException.class, Scenes::busy, l -> l.passBegin(0, orbit));
-            Check.refuses("end", IllegalArgumentException.class, Scenes::busy, l -> l.passEnd(0, orbit));
-            Check.refuses("frames", IllegalArgumentException.class, Scenes::busy, l -> l.passFrames(0, orbit));
+            Check.refuses("begin", IllegalArgumentException.class, Scenes.BUSY, l -> l.passBegin(0, orbit));
+            Check.refuses("end", IllegalArgumentException.class, Scenes.BUSY, l -> l.passEnd(0, orbit));
+            Check.refuses("frames", IllegalArgumentException.class, Scenes.BUSY, l -> l.passFrames(0, orbit));
         }
     }
 
@@ -93,11 +93,11 @@ public final class PredictionsTest {
         Check.is("far and over", x.isVisible(0, 1656 * 60 + 16), false);
         Check.is("the last minute", x.isVisible(0, 99999), false);
         for (int station : NO_STATION) {
-            Check.refuses("visible", IndexOutOfBoundsException.class, Scenes::busy, l -> l.isVisible(station, 0));
-            Check.refuses("station first", IndexOutOfBoundsException.class, Scenes::busy, l -> l.isVisible(station, -1));
+            Check.refuses("visible", IndexOutOfBoundsException.class, Scenes.BUSY, l -> l.isVisible(station, 0));
+            Check.refuses("station first", IndexOutOfBoundsException.class, Scenes.BUSY, l -> l.isVisible(station, -1));
         }
         for (int time : new int[] {-1, 100000, Integer.MAX_VALUE}) {
-            Check.refuses("visible", IllegalArgumentException.class, Scenes::busy, l -> l.isVisible(0, time));
+            Check.refuses("visible", IllegalArgumentException.class, Scenes.BUSY, l -> l.isVisible(0, time));
         }
     }
 
@@ -134,7 +134,7 @@ public final class PredictionsTest {
     private static void wrongTable() {
         int[][] wrong = {{-1, 0, 0}, {100000, 0, 0}, {0, -1, 0}, {0, 20, 0}, {0, 0, -1}, {0, 0, 4}};
         for (int[] w : wrong) {
-            Check.refuses("table", IllegalArgumentException.class, Scenes::busy, l -> l.passTable(w[0], w[1], w[2]));
+            Check.refuses("table", IllegalArgumentException.class, Scenes.BUSY, l -> l.passTable(w[0], w[1], w[2]));
         }
     }
 
@@ -157,7 +157,7 @@ public final class PredictionsTest {
         y.setOrbit(100, 0, 180);
         contactIs(y, -1, -1, -1);
         for (int what : new int[] {-1, 3, Integer.MAX_VALUE}) {
-            Check.refuses("nextContact", IllegalArgumentException.class, Scenes::busy, l -> l.nextContact(what));
+            Check.refuses("nextContact", IllegalArgumentException.class, Scenes.BUSY, l -> l.nextContact(what));
         }
     }
 
@@ -210,16 +210,16 @@ public final class PredictionsTest {
 
     private static void wrongSpans() {
         for (int station : new int[] {-2, 2, Integer.MIN_VALUE, Integer.MAX_VALUE}) {
-            Check.refuses("coverage", IndexOutOfBoundsException.class, Scenes::busy, l -> l.coverage(station, 0, 10));
-            Check.refuses("station first", IndexOutOfBoundsException.class, Scenes::busy,
+            Check.refuses("coverage", IndexOutOfBoundsException.class, Scenes.BUSY, l -> l.coverage(station, 0, 10));
+            Check.refuses("station first", IndexOutOfBoundsException.class, Scenes.BUSY,
                     l -> l.coverage(station, -1, 0));
         }
         int[][] wrong = {{-1, 10}, {100000, 10}, {0, 0}, {0, 1441}, {0, -1}};
         for (int[] w : wrong) {
-            Check.refuses("coverage", IllegalArgumentException.class, Scenes::busy, l -> l.coverage(0, w[0], w[1]));
-            Check.refuses("of any", IllegalArgumentException.class, Scenes::busy, l -> l.coverage(-1, w[0], w[1]));
-            Check.refuses("longestGap", IllegalArgumentException.class, Scenes::busy, l -> l.longestGap(w[0], w[1]));
-            Check.refuses("bestStation", IllegalArgumentException.class, Scenes::busy, l -> l.bestStation(w[0], w[1]));
+            Check.refuses("coverage", IllegalArgumentException.class, Scenes.BUSY, l -> l.coverage(0, w[0], w[1]));
+            Check.refuses("of any", IllegalArgumentException.class, Scenes.BUSY, l -> l.coverage(-1, w[0], w[1]));
+            Check.refuses("longestGap", IllegalArgumentException.class, Scenes.BUSY, l -> l.longestGap(w[0], w[1]));
+            Check.refuses("bestStation", IllegalArgumentException.class, Scenes.BUSY, l -> l.bestStation(w[0], w[1]));
         }
     }
 
@@ -247,11 +247,11 @@ public final class PredictionsTest {
         Check.is("into orbit 999", y.nextPass(0, 998 * 100 + 60), 999 * 100 + 59);
         Check.is("behind orbit 999", y.nextPass(0, 999 * 100 + 60), -1);
         for (int station : NO_STATION) {
-            Check.refuses("nextPass", IndexOutOfBoundsException.class, Scenes::busy, l -> l.nextPass(station, 0));
-            Check.refuses("station first", IndexOutOfBoundsException.class, Scenes::busy, l -> l.nextPass(station, -1));
+            Check.refuses("nextPass", IndexOutOfBoundsException.class, Scenes.BUSY, l -> l.nextPass(station, 0));
+            Check.refuses("station first", IndexOutOfBoundsException.class, Scenes.BUSY, l -> l.nextPass(station, -1));
         }
         for (int from : new int[] {-1, 100000}) {
-            Check.refuses("nextPass", IllegalArgumentException.class, Scenes::busy, l -> l.nextPass(0, from));
+            Check.refuses("nextPass", IllegalArgumentException.class, Scenes.BUSY, l -> l.nextPass(0, from));
         }
     }
 }

@@ -36,10 +36,10 @@ public final class RecordsTest {
     private static void refusedRecords() {
         int[][] wrong = {{0, 0}, {25, 0}, {-1, 0}, {1, -1}, {1, 10}, {Integer.MIN_VALUE, 0}, {1, Integer.MAX_VALUE}};
         for (int[] w : wrong) {
-            Check.refuses("addRecord", IllegalArgumentException.class, Scenes::busy, l -> l.addRecord(w[0], w[1]));
-            Check.refuses("to 40", IllegalArgumentException.class, Scenes::full, l -> l.addRecord(w[0], w[1]));
+            Check.refuses("addRecord", IllegalArgumentException.class, Scenes.BUSY, l -> l.addRecord(w[0], w[1]));
+            Check.refuses("to 40", IllegalArgumentException.class, Scenes.FULL, l -> l.addRecord(w[0], w[1]));
         }
-        Check.refuses("a 41st", IllegalStateException.class, Scenes::full, l -> l.addRecord(1, 0));
+        Check.refuses("a 41st", IllegalStateException.class, Scenes.FULL, l -> l.addRecord(1, 0));
         PassLink x = new PassLink();
         x.setMemory(24);
         x.addRecord(20, 0);
@@ -56,11 +56,11 @@ public final class RecordsTest {
         Check.is("previous", x.setPriority(0, 0), 9);
         Check.is("urgency", x.urgency(0), 5);
         for (int record : NO_RECORD) {
-            Check.refuses("no record", IndexOutOfBoundsException.class, Scenes::busy, l -> l.setPriority(record, 1));
-            Check.refuses("record first", IndexOutOfBoundsException.class, Scenes::busy, l -> l.setPriority(record, 10));
+            Check.refuses("no record", IndexOutOfBoundsException.class, Scenes.BUSY, l -> l.setPriority(record, 1));
+            Check.refuses("record first", IndexOutOfBoundsException.class, Scenes.BUSY, l -> l.setPriority(record, 10));
         }
         for (int priority : new int[] {-1, 10}) {
-            Check.refuses("priority", IllegalArgumentException.class, Scenes::busy, l -> l.setPriority(0, priority));
+            Check.refuses("priority", IllegalArgumentException.class, Scenes.BUSY, l -> l.setPriority(0, priority));
         }
     }
 
@@ -129,7 +129,7 @@ public final class RecordsTest {
         Check.is("still archived", x.frames(0, 3), 7);
         Check.is("nothing to resume", x.resumePoint(0), -1);
         for (int state : new int[] {-1, 4}) {
-            Check.refuses("state", IllegalArgumentException.class, Scenes::busy, l -> l.frames(0, state));
+            Check.refuses("state", IllegalArgumentException.class, Scenes.BUSY, l -> l.frames(0, state));
         }
     }
 
@@ -153,7 +153,7 @@ public final class RecordsTest {
         for (int frame : new int[] {-1, 2, 24, Integer.MAX_VALUE}) {
             Check.is("frame " + frame, Check.thrownBy(x, l -> l.sentIn(0, frame)), "IndexOutOfBoundsException");
         }
-        Check.refuses("frame", IndexOutOfBoundsException.class, Scenes::busy, l -> l.sentIn(1, 3));
+        Check.refuses("frame", IndexOutOfBoundsException.class, Scenes.BUSY, l -> l.sentIn(1, 3));
     }
 
     private static void deliveryAndRelease() {
@@ -192,7 +192,7 @@ public final class RecordsTest {
         x.advance(2);
         Check.is("less what was sent", x.backlog(9), 5);
         for (int priority : new int[] {-1, 10}) {
-            Check.refuses("backlog", IllegalArgumentException.class, Scenes::busy, l -> l.backlog(priority));
+            Check.refuses("backlog", IllegalArgumentException.class, Scenes.BUSY, l -> l.backlog(priority));
         }
     }
 
@@ -217,7 +217,7 @@ public final class RecordsTest {
                 l -> l.frames(record, 9), l -> l.sentIn(record, 0), l -> l.deliveredAt(record),
                 l -> l.releasedAt(record)};
             for (Check.Call call : calls) {
-                Check.refuses("record " + record, IndexOutOfBoundsException.class, Scenes::busy, call);
+                Check.refuses("record " + record, IndexOutOfBoundsException.class, Scenes.BUSY, call);
             }
         }
     }

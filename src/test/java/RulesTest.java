@@ -67,7 +67,7 @@ public final class RulesTest {
         int[][] wrong = {{59, 0, 0}, {201, 0, 0}, {90, -1, 0}, {90, 360, 0}, {90, 0, -1}, {90, 0, 360},
             {Integer.MIN_VALUE, 0, 0}, {Integer.MAX_VALUE, 0, 0}};
         for (int[] w : wrong) {
-            Check.refuses("setOrbit " + w[0] + " " + w[1] + " " + w[2], IllegalArgumentException.class, Scenes::busy,
+            Check.refuses("setOrbit " + w[0] + " " + w[1] + " " + w[2], IllegalArgumentException.class, Scenes.BUSY,
                     l -> l.setOrbit(w[0], w[1], w[2]));
         }
     }
@@ -86,12 +86,12 @@ public final class RulesTest {
             {0, 0, 0, 0, 1, 0}, {0, 0, 31, 0, 1, 0}, {0, 0, 1, -1, 1, 0}, {0, 0, 1, 60, 1, 0},
             {0, 0, 1, 0, 0, 0}, {0, 0, 1, 0, 21, 0}, {0, 0, 1, 0, 1, -1}, {0, 0, 1, 0, 1, 100}};
         for (int[] w : wrong) {
-            Check.refuses("addStation", IllegalArgumentException.class, Scenes::busy,
+            Check.refuses("addStation", IllegalArgumentException.class, Scenes.BUSY,
                     l -> l.addStation(w[0], w[1], w[2], w[3], w[4], w[5]));
-            Check.refuses("addStation to four", IllegalArgumentException.class, Scenes::full,
+            Check.refuses("addStation to four", IllegalArgumentException.class, Scenes.FULL,
                     l -> l.addStation(w[0], w[1], w[2], w[3], w[4], w[5]));
         }
-        Check.refuses("a fifth", IllegalStateException.class, Scenes::full, l -> l.addStation(0, 0, 1, 0, 1, 0));
+        Check.refuses("a fifth", IllegalStateException.class, Scenes.FULL, l -> l.addStation(0, 0, 1, 0, 1, 0));
     }
 
     private static void setLoss() {
@@ -104,13 +104,13 @@ public final class RulesTest {
         x.advance(1);
         Check.is("it loses", x.figure(1), 1);
         for (int station : new int[] {-1, 2, Integer.MAX_VALUE, Integer.MIN_VALUE}) {
-            Check.refuses("setLoss at " + station, IndexOutOfBoundsException.class, Scenes::busy,
+            Check.refuses("setLoss at " + station, IndexOutOfBoundsException.class, Scenes.BUSY,
                     l -> l.setLoss(station, 5));
-            Check.refuses("the station first", IndexOutOfBoundsException.class, Scenes::busy,
+            Check.refuses("the station first", IndexOutOfBoundsException.class, Scenes.BUSY,
                     l -> l.setLoss(station, 100));
         }
         for (int loss : new int[] {-1, 100}) {
-            Check.refuses("setLoss " + loss, IllegalArgumentException.class, Scenes::busy, l -> l.setLoss(0, loss));
+            Check.refuses("setLoss " + loss, IllegalArgumentException.class, Scenes.BUSY, l -> l.setLoss(0, loss));
         }
     }
 
@@ -130,16 +130,16 @@ public final class RulesTest {
         Check.is("policy 1", x.setPolicy(0), 1);
         Check.is("policy 0", x.setPolicy(0), 0);
         for (int w : new int[] {-1, 1000, 10000}) {
-            Check.refuses("setGroundDelay", IllegalArgumentException.class, Scenes::busy, l -> l.setGroundDelay(w));
-            Check.refuses("setFresh limit", IllegalArgumentException.class, Scenes::busy, l -> l.setFresh(w, 1));
-            Check.refuses("setFresh bonus", IllegalArgumentException.class, Scenes::busy, l -> l.setFresh(1, w));
+            Check.refuses("setGroundDelay", IllegalArgumentException.class, Scenes.BUSY, l -> l.setGroundDelay(w));
+            Check.refuses("setFresh limit", IllegalArgumentException.class, Scenes.BUSY, l -> l.setFresh(w, 1));
+            Check.refuses("setFresh bonus", IllegalArgumentException.class, Scenes.BUSY, l -> l.setFresh(1, w));
         }
-        Check.refuses("setFresh bonus", IllegalArgumentException.class, Scenes::busy, l -> l.setFresh(1, 10));
+        Check.refuses("setFresh bonus", IllegalArgumentException.class, Scenes.BUSY, l -> l.setFresh(1, 10));
         for (int w : new int[] {-1, 0, 10000}) {
-            Check.refuses("setPatience", IllegalArgumentException.class, Scenes::busy, l -> l.setPatience(w));
+            Check.refuses("setPatience", IllegalArgumentException.class, Scenes.BUSY, l -> l.setPatience(w));
         }
         for (int w : new int[] {-1, 2}) {
-            Check.refuses("setPolicy", IllegalArgumentException.class, Scenes::busy, l -> l.setPolicy(w));
+            Check.refuses("setPolicy", IllegalArgumentException.class, Scenes.BUSY, l -> l.setPolicy(w));
         }
     }
 
@@ -154,9 +154,9 @@ public final class RulesTest {
         Check.is("less", Check.thrownBy(x, l -> l.setMemory(959)), "IllegalStateException");
         Check.is("far less", Check.thrownBy(x, l -> l.setMemory(23)), "IllegalArgumentException");
         for (int w : new int[] {-1, 0, 23, 961}) {
-            Check.refuses("setMemory " + w, IllegalArgumentException.class, Scenes::busy, l -> l.setMemory(w));
+            Check.refuses("setMemory " + w, IllegalArgumentException.class, Scenes.BUSY, l -> l.setMemory(w));
         }
-        Check.refuses("less than in use", IllegalStateException.class, Scenes::busy, l -> l.setMemory(24));
+        Check.refuses("less than in use", IllegalStateException.class, Scenes.BUSY, l -> l.setMemory(24));
         PassLink y = new PassLink();
         y.addRecord(20, 0);
         y.addRecord(5, 0);
@@ -180,7 +180,7 @@ public final class RulesTest {
                 Check.is("seed " + pair[0] + " loss " + loss, x.figure(1), loss - pair[1]);
             }
         }
-        Check.refuses("setSeed -1", IllegalArgumentException.class, Scenes::busy, l -> l.setSeed(-1));
-        Check.refuses("least seed", IllegalArgumentException.class, Scenes::busy, l -> l.setSeed(Integer.MIN_VALUE));
+        Check.refuses("setSeed -1", IllegalArgumentException.class, Scenes.BUSY, l -> l.setSeed(-1));
+        Check.refuses("least seed", IllegalArgumentException.class, Scenes.BUSY, l -> l.setSeed(Integer.MIN_VALUE));
     }
 }

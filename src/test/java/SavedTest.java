@@ -11,6 +11,14 @@ public final class SavedTest {
     }
 
     private static void everythingComesBack() {
+        Check.same("state", SavedTest::changedAndBack, () -> {
+            PassLink y = Scenes.busy();
+            y.save(0);
+            return y;
+        });
+    }
+
+    private static PassLink changedAndBack() {
         PassLink x = Scenes.busy();
         x.save(0);
         x.setOrbit(77, 7, 7);
@@ -26,10 +34,7 @@ public final class SavedTest {
         x.addRecord(9, 9);
         x.advance(1000);
         x.restore(0);
-        x.save(0);
-        PassLink y = Scenes.busy();
-        y.save(0);
-        Check.is("state", View.of(x), View.of(y));
+        return x;
     }
 
     private static void theGeneratorComesBack() {
@@ -106,9 +111,9 @@ public final class SavedTest {
 
     private static void wrongSlots() {
         for (int slot : new int[] {-1, 2, Integer.MIN_VALUE, Integer.MAX_VALUE}) {
-            Check.refuses("save", IllegalArgumentException.class, Scenes::busy, l -> l.save(slot));
-            Check.refuses("restore", IllegalArgumentException.class, Scenes::busy, l -> l.restore(slot));
+            Check.refuses("save", IllegalArgumentException.class, Scenes.BUSY, l -> l.save(slot));
+            Check.refuses("restore", IllegalArgumentException.class, Scenes.BUSY, l -> l.restore(slot));
         }
-        Check.refuses("nothing is saved", IllegalStateException.class, Scenes::busy, l -> l.restore(0));
+        Check.refuses("nothing is saved", IllegalStateException.class, Scenes.BUSY, l -> l.restore(0));
     }
 }

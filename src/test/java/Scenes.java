@@ -1,5 +1,13 @@
 /** Objects in the middle of their work, for the tests. */
 final class Scenes {
+    static final Check.Scene EMPTY = PassLink::new;
+    static final Check.Scene BUSY = Scenes::busy;
+    static final Check.Scene FULL = Scenes::full;
+    static final Check.Scene AT_THE_END = Scenes::atTheEnd;
+
+    /** A setup of eleven bytes. */
+    static final String TEXT = "patience 5;";
+
     private Scenes() {
     }
 
@@ -17,7 +25,7 @@ final class Scenes {
         link.setPolicy(1);
         link.setSeed(4711);
         link.advance(48);
-        Check.append(link, "policy", 0);
+        Check.append(link, TEXT, 0);
         return link;
     }
 
@@ -31,13 +39,31 @@ final class Scenes {
         return link;
     }
 
-    /** All four stations and 40 records. */
+    /** 4 stations, 40 records, no free memory, 60 kept contacts and more, 400 bytes, 2 saved states. */
     static PassLink full() {
         PassLink link = steady(0, 5, 1, 10, 5, 1, 20, 5, 1, 30, 5, 1);
+        for (int station = 0; station < 4; station++) {
+            link.setLoss(station, 80);
+        }
         for (int n = 0; n < 40; n++) {
-            link.addRecord(1 + n % 3, n % 10);
+            link.addRecord(1 + n % 9, n % 10);
         }
         link.advance(12);
+        link.save(0);
+        link.advance(1440);
+        link.advance(170);
+        link.save(1);
+        link.setMemory(link.memoryInUse());
+        Check.load(link, "memory;");
+        Check.append(link, TEXT + " ".repeat(400 - TEXT.length()), 0);
+        return link;
+    }
+
+    static PassLink atTheEnd() {
+        PassLink link = full();
+        while (link.time() < 20000) {
+            link.advance(Math.min(1440, 20000 - link.time()));
+        }
         return link;
     }
 }

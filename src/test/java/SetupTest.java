@@ -42,7 +42,7 @@ public final class SetupTest {
 
     private static PassLink withText() {
         PassLink x = Scenes.busy();
-        for (int n = 0; n < 98; n++) {
+        for (int n = 0; n < 97; n++) {
             x.appendText(0x20202020);
         }
         return x;
@@ -50,8 +50,8 @@ public final class SetupTest {
 
     private static void wrongBuffer() {
         Check.refuses("append", IllegalStateException.class, SetupTest::withText, l -> l.appendText(0x61616161));
-        for (int length : new int[] {-1, 7, 400, Integer.MIN_VALUE, Integer.MAX_VALUE}) {
-            Check.refuses("truncate", IllegalArgumentException.class, Scenes::busy, l -> l.truncateText(length));
+        for (int length : new int[] {-1, 12, 400, Integer.MIN_VALUE, Integer.MAX_VALUE}) {
+            Check.refuses("truncate", IllegalArgumentException.class, Scenes.BUSY, l -> l.truncateText(length));
         }
     }
 
@@ -110,25 +110,27 @@ public final class SetupTest {
 
     /** Trials and earlier loads leave nothing behind in what a load makes. */
     private static void nothingIsLeftOver() {
-        PassLink x = Scenes.busy();
-        x.bestPolicy(300);
-        x.truncateText(0);
         String text = "station 0 90 30 0 1 0; station 0 90 30 0 1 0; record 24 1; record 24 1; record 24 1;";
-        Check.load(x, text);
-        PassLink y = Check.loaded(text);
-        x.save(0);
-        x.save(1);
-        y.save(0);
-        y.save(1);
-        Check.is("no figures", x.stationFigure(0, 0) + x.stationFigure(0, 1) + x.stationFigure(1, 2), 0);
-        Check.is("nothing under way", x.frames(0, 1) + x.frames(1, 1) + x.frames(2, 1), 0);
-        Check.is("nothing archived", x.frames(0, 3) + x.frames(1, 2) + x.sentIn(1, 0), -1);
-        Check.is("state", View.of(x), View.of(y));
+        for (Check.Scene scene : new Check.Scene[] {Scenes.BUSY, Scenes.FULL}) {
+            Check.same("state", () -> {
+                PassLink x = scene.make();
+                x.bestPolicy(300);
+                x.truncateText(0);
+                return loadedAndSaved(x, text);
+            }, () -> loadedAndSaved(new PassLink(), text));
+        }
         PassLink z = Scenes.steady(0, 30, 1);
         z.addRecord(24, 0);
         z.deliveryForecast(0);
         Check.load(z, "record 24 0;");
         Check.is("nothing under way by a forecast", z.frames(0, 1), 0);
+    }
+
+    private static PassLink loadedAndSaved(PassLink x, String text) {
+        Check.load(x, text);
+        x.save(0);
+        x.save(1);
+        return x;
     }
 
     private static void bytesBehindTheCut() {
@@ -278,14 +280,10 @@ public final class SetupTest {
         Check.append(x, "orbit 60 0 0; record 1 1; record 1;", 0);
         Check.is("load", x.load(), -1);
         Check.is("the text is empty", Check.thrownBy(x, l -> l.truncateText(1)), "IllegalArgumentException");
-        PassLink y = Scenes.busy();
-        y.truncateText(0);
-        Check.append(y, "station 0 0 1 0 1 0; record 5 1; pat;", 0);
-        y.load();
-        Check.is("another position", x.errorPosition() == y.errorPosition(), false);
-        Check.load(x, "x");
-        Check.load(y, "x");
-        Check.is("state", View.of(x), View.of(y));
+        for (Check.Scene scene : new Check.Scene[] {Scenes.BUSY, Scenes.FULL, Scenes.EMPTY}) {
+            Check.same("state", () -> failed(scene, "orbit 61 1 1; station 0 0 1 0 1 0; record 5 1; policy longest; pat;"),
+                    () -> failed(scene, ""));
+        }
         PassLink z = Scenes.busy();
         z.truncateText(0);
         int time = z.time();
@@ -294,6 +292,17 @@ public final class SetupTest {
         Check.is("period", z.setOrbit(60, 5, 0), 60);
         Check.is("stations", z.stationCount(), 2);
         Check.is("records", z.recordCount(), 3);
+    }
+
+    /** Loads a wrong text, and then another, so that the latest error is the same for all. */
+    private static PassLink failed(Check.Scene scene, String text) {
+        PassLink x = scene.make();
+        x.truncateText(0);
+        if (!text.isEmpty()) {
+            Check.is("load", Check.load(x, text), -1);
+        }
+        Check.load(x, "x");
+        return x;
     }
 
     private static void latestError() {

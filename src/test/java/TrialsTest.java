@@ -113,19 +113,21 @@ public final class TrialsTest {
     }
 
     private static void nothingChanges() {
-        PassLink x = Scenes.busy();
-        x.deliveryForecast(2);
-        x.bestPolicy(700);
-        x.nextContact(2);
-        Check.is("state", View.of(x), View.of(Scenes.busy()));
+        Check.same("state", () -> {
+            PassLink x = Scenes.busy();
+            x.deliveryForecast(2);
+            x.bestPolicy(700);
+            x.nextContact(2);
+            return x;
+        }, Scenes.BUSY);
     }
 
     private static void wrongTrials() {
         for (int record : new int[] {-1, 3, 40, Integer.MAX_VALUE}) {
-            Check.refuses("forecast", IndexOutOfBoundsException.class, Scenes::busy, l -> l.deliveryForecast(record));
+            Check.refuses("forecast", IndexOutOfBoundsException.class, Scenes.BUSY, l -> l.deliveryForecast(record));
         }
         for (int minutes : new int[] {0, -1, 1441, Integer.MAX_VALUE}) {
-            Check.refuses("policy", IllegalArgumentException.class, Scenes::busy, l -> l.bestPolicy(minutes));
+            Check.refuses("policy", IllegalArgumentException.class, Scenes.BUSY, l -> l.bestPolicy(minutes));
         }
     }
 }
