@@ -50,13 +50,19 @@ enum Look {
     EARLY_CONTACTS {
         @Override
         void write(PassLink link, Notes notes) {
-            contacts(link, notes, link.contactCount() - 60, link.contactCount() - 30);
+            contacts(link, notes, link.contactCount() - 60, link.contactCount() - 40);
+        }
+    },
+    MIDDLE_CONTACTS {
+        @Override
+        void write(PassLink link, Notes notes) {
+            contacts(link, notes, link.contactCount() - 40, link.contactCount() - 20);
         }
     },
     LATE_CONTACTS {
         @Override
         void write(PassLink link, Notes notes) {
-            contacts(link, notes, link.contactCount() - 30, link.contactCount());
+            contacts(link, notes, link.contactCount() - 20, link.contactCount());
         }
     },
     FIGURES {
