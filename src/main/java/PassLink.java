@@ -601,7 +601,9 @@ public final class PassLink {
         }
 
         void becomeNew() {
-            placeOrbit(90, 24, 0);
+            period = 90;
+            shift = 24;
+            node = 0;
             count = 0;
         }
 

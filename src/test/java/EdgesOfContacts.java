@@ -266,6 +266,9 @@ final class EdgesOfContacts {
             Check.is("all", y.contactFrames(0, 0, true), 0xffffff);
             y.advance(100);
             Check.is("nothing in the next one", y.contactFrames(1, 0, false), 0);
+            Check.is("sent in the first of 60", after(60).contactFrames(0, 0, false), 1);
+            Check.is("not sent in the one that follows them", after(61).contactFrames(60, 0, false), 0);
+            Check.is("not received there", after(61).contactFrames(60, 0, true), 0);
         });
         Edges.holds("Throws `IndexOutOfBoundsException` if there is no such contact or record, or the contact was"
                 + " forgotten", () -> {
@@ -314,6 +317,7 @@ final class EdgesOfContacts {
             }
             Check.is("half of the records", totalAfter(y, 1), 20);
             Check.is("all the records", totalAfter(y, 1), 40);
+            Check.is("none behind 60 contacts", after(61).contactTotal(60, false), 0);
         });
     }
 

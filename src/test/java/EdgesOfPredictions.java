@@ -251,6 +251,11 @@ final class EdgesOfPredictions {
             contactIs(x, 1, 12, 18);
             x.advance(7);
             contactIs(x, 0, 110, 112);
+            contactIs(Scenes.steady(7, 1, 1), 0, 7, 8);
+            PassLink same = Scenes.steady(0, 5, 1);
+            same.advance(1);
+            // The next one is with the station of the present one.
+            contactIs(same, 0, 100, 105);
             Check.same("nothing is changed", () -> {
                 PassLink y = Scenes.busy();
                 y.nextContact(0);
@@ -438,6 +443,8 @@ final class EdgesOfPredictions {
         Edges.holds("NONE if none is visible in any of them.", () -> {
             PassLink x = Scenes.steady(0, 6, 2, 10, 3, 4);
             Check.is("between the passes", x.bestStation(6, 4), -1);
+            Check.is("one frame in one minute", Scenes.steady(0, 1, 1).bestStation(0, 1), 0);
+            Check.is("a minute later", Scenes.steady(0, 1, 1).bestStation(1, 1), -1);
             Check.is("a minute more", x.bestStation(6, 5), 1);
             Check.is("a minute earlier", x.bestStation(5, 5), 0);
             Check.is("no stations", new PassLink().bestStation(0, 1440), -1);

@@ -109,6 +109,15 @@ final class EdgesOfSetups {
                     errorIs(c + "ground5;", 1, 0);
                 }
             }
+            for (String statement : STATEMENTS) {
+                for (int at = 0; statement.charAt(at) != ' '; at++) {
+                    for (char c : new char[] {'a', 'x', 'z'}) {
+                        if (statement.charAt(at) != c) {
+                            errorIs(statement.substring(0, at) + c + statement.substring(at + 1), 1, 0);
+                        }
+                    }
+                }
+            }
             errorIs("groundground5;", 1, 0);
             errorIs("groun d5;", 1, 0);
             errorIs("groun5;", 1, 0);
@@ -228,7 +237,8 @@ final class EdgesOfSetups {
             }
         });
         Edges.holds("\"policy\" ( \"stay\" | \"longest\" )", () -> {
-            for (String word : new String[] {"sta", "stays", "longes", "longests", "longer", "policy", "record", "0", "1"}) {
+            for (String word : new String[] {"sta", "stays", "xtay", "stax", "longes", "longests", "xongest", "longesx",
+                "policy", "record", "0", "1"}) {
                 errorIs("policy " + word + ";", 1, 7);
             }
             PassLink x = Check.loaded("policy longest;");

@@ -128,6 +128,26 @@ final class EdgesOfTexts {
                 });
             }
         });
+        Edges.holds("replaces everything", () -> {
+            // The contact that is present is the first one, or the first one in the place of a forgotten one.
+            for (int contacts : new int[] {1, 60, 61}) {
+                PassLink x = Scenes.steady(0, 10, 1);
+                for (int n = 1; n < contacts; n++) {
+                    x.advance(100);
+                }
+                x.advance(1);
+                Check.is("present", x.presentStation(), 0);
+                x.load();
+                Check.is("none is", x.presentStation(), -1);
+                Check.is("nor was", x.contactCount(), 0);
+            }
+            PassLink y = Scenes.steady(0, 10, 1, 10, 5, 1);
+            y.bestPolicy(100);
+            y.advance(50);
+            Check.is("a handover", y.handovers(), 1);
+            y.load();
+            Check.is("no handover of it, nor of the trial", y.handovers(), 0);
+        });
         Edges.holds("except saved states", () -> {
             for (Check.Scene scene : new Check.Scene[] {Scenes.BUSY, Scenes.FULL}) {
                 Check.is("slots", Look.SLOTS.at(() -> emptied(scene)), Look.SLOTS.at(scene));
@@ -144,9 +164,10 @@ final class EdgesOfTexts {
         });
     }
 
-    /** A scene whose text is empty and was loaded. */
+    /** A scene whose text is empty and was loaded, behind trials, of which nothing may be left. */
     private static PassLink emptied(Check.Scene scene) {
         PassLink x = scene.make();
+        x.bestPolicy(400);
         x.truncateText(0);
         Check.is("statements", x.load(), 0);
         return x;
@@ -369,6 +390,12 @@ final class EdgesOfTexts {
                     return x;
                 }, () -> savedTwice(scene.make()));
             }
+            PassLink before = Scenes.steady(0, 10, 1);
+            before.save(0);
+            before.advance(1);
+            before.restore(0);
+            Check.is("no contact is present", before.presentStation(), -1);
+            Check.is("the next one is the first", before.nextContact(1), 0);
             // A saved state of few contacts and records comes back from many.
             Check.same("from a full one", () -> {
                 PassLink x = Scenes.full();
