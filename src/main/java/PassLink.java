@@ -1330,7 +1330,6 @@ public final class PassLink {
         int error = 0;
         int errorAt = NONE;
 
-        private Simulation target = null;
         private int token = END;
         private int tokenStart = 0;
         /** The index behind the present token, where the next one is looked for. */
@@ -1349,8 +1348,7 @@ public final class PassLink {
         }
 
         /** Sets up a new simulation; tells the number of statements, or NONE and notes the error. */
-        int readSetup(Simulation fresh) {
-            target = fresh;
+        int readSetup(Simulation target) {
             tokenEnd = 0;
             error = 0;
             errorAt = NONE;
@@ -1360,7 +1358,7 @@ public final class PassLink {
                 if (token == END) {
                     return statements;
                 }
-                if (!readStatement() || !readSemicolon()) {
+                if (!readStatement(target) || !readSemicolon()) {
                     return NONE;
                 }
             }
@@ -1378,32 +1376,32 @@ public final class PassLink {
             return token == SEMICOLON || refuse(NOT_ALLOWED);
         }
 
-        private boolean readStatement() {
+        private boolean readStatement(Simulation target) {
             if (isWord("orbit")) {
-                return readOrbit();
+                return readOrbit(target);
             }
             if (isWord("station")) {
-                return readStation();
+                return readStation(target);
             }
             if (isWord("ground")) {
-                return readGround();
+                return readGround(target);
             }
             if (isWord("patience")) {
-                return readPatience();
+                return readPatience(target);
             }
             if (isWord("fresh")) {
-                return readFresh();
+                return readFresh(target);
             }
             if (isWord("memory")) {
-                return readMemory();
+                return readMemory(target);
             }
             if (isWord("policy")) {
-                return readPolicy();
+                return readPolicy(target);
             }
-            return isWord("record") ? readRecord() : refuse(NOT_ALLOWED);
+            return isWord("record") ? readRecord(target) : refuse(NOT_ALLOWED);
         }
 
-        private boolean readOrbit() {
+        private boolean readOrbit(Simulation target) {
             boolean right = readNumber(0, LEAST_PERIOD, MOST_PERIOD)
                     && readNumber(1, 0, LAST_DEGREE)
                     && readNumber(2, 0, LAST_DEGREE);
@@ -1413,7 +1411,7 @@ public final class PassLink {
             return right;
         }
 
-        private boolean readStation() {
+        private boolean readStation(Simulation target) {
             if (target.sky.isFull()) {
                 return refuse(NO_ROOM);
             }
@@ -1429,7 +1427,7 @@ public final class PassLink {
             return right;
         }
 
-        private boolean readGround() {
+        private boolean readGround(Simulation target) {
             boolean right = readNumber(0, 0, MOST_DELAY);
             if (right) {
                 target.rules.groundDelay = numbers[0];
@@ -1437,7 +1435,7 @@ public final class PassLink {
             return right;
         }
 
-        private boolean readPatience() {
+        private boolean readPatience(Simulation target) {
             boolean right = readNumber(0, 1, MOST_PATIENCE);
             if (right) {
                 target.rules.patience = numbers[0];
@@ -1445,7 +1443,7 @@ public final class PassLink {
             return right;
         }
 
-        private boolean readFresh() {
+        private boolean readFresh(Simulation target) {
             boolean right = readNumber(0, 0, MOST_FRESH) && readNumber(1, 0, MOST_BONUS);
             if (right) {
                 target.rules.freshLimit = numbers[0];
@@ -1454,7 +1452,7 @@ public final class PassLink {
             return right;
         }
 
-        private boolean readMemory() {
+        private boolean readMemory(Simulation target) {
             if (!readNumber(0, LEAST_MEMORY, MOST_MEMORY)) {
                 return false;
             }
@@ -1465,7 +1463,7 @@ public final class PassLink {
             return true;
         }
 
-        private boolean readPolicy() {
+        private boolean readPolicy(Simulation target) {
             readToken();
             if (isWord("stay")) {
                 target.rules.policy = STAY;
@@ -1478,7 +1476,7 @@ public final class PassLink {
             return refuse(NOT_ALLOWED);
         }
 
-        private boolean readRecord() {
+        private boolean readRecord(Simulation target) {
             if (target.isFull()) {
                 return refuse(NO_ROOM);
             }

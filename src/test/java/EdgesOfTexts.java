@@ -147,6 +147,14 @@ final class EdgesOfTexts {
             Check.is("a handover", y.handovers(), 1);
             y.load();
             Check.is("no handover of it, nor of the trial", y.handovers(), 0);
+            // The orbit of a trial is not left over either: each of its three numbers is the first one again.
+            PassLink z = new PassLink();
+            z.setOrbit(200, 7, 180);
+            z.bestPolicy(1);
+            z.load();
+            z.addStation(0, 0, 1, 0, 1, 0);
+            Check.is("the node", z.passBegin(0, 0), 0);
+            Check.is("period and shift", z.nextPass(0, 1), 15 * 90);
         });
         Edges.holds("except saved states", () -> {
             for (Check.Scene scene : new Check.Scene[] {Scenes.BUSY, Scenes.FULL}) {
@@ -306,6 +314,23 @@ final class EdgesOfTexts {
                     return x;
                 }, () -> savedTwice(scene.make()));
             }
+        });
+        Edges.holds("Saves everything", () -> {
+            // The time at which a record was added is seen in its urgency and in its delay.
+            PassLink x = Scenes.steady(50, 1, 1);
+            x.advance(10);
+            x.addRecord(1, 0);
+            x.save(0);
+            x.load();
+            x.advance(3);
+            Check.is("another with its number", x.addRecord(1, 0), 0);
+            x.restore(0);
+            x.advance(30);
+            Check.is("still fresh", x.urgency(0), 5);
+            x.advance(1);
+            Check.is("no longer", x.urgency(0), 0);
+            x.advance(10);
+            Check.is("its delay", x.medianDelay(), 40);
         });
         Edges.holds("except the text buffer, the latest error and the saved states", () -> {
             PassLink x = new PassLink();

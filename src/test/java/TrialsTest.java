@@ -5,6 +5,7 @@ public final class TrialsTest {
         forecastAtTheEdge();
         forecastWithoutLosses();
         forecastOfTheDelivered();
+        forecastOfTheFresh();
         forecastBeyondTheLastTime();
         policies();
         policiesByChance();
@@ -51,6 +52,16 @@ public final class TrialsTest {
         x.advance(1);
         Check.is("one was lost", x.deliveryForecast(0), 100);
         Check.is("the loss is as it was", x.setLoss(0, 99), 99);
+    }
+
+    /** Record 1 is fresh at 35, 25 minutes behind its adding, and goes first; record 0 no longer is. */
+    private static void forecastOfTheFresh() {
+        PassLink x = Scenes.steady(35, 2, 1);
+        x.addRecord(1, 1);
+        x.advance(10);
+        x.addRecord(1, 0);
+        Check.is("the fresh one", x.deliveryForecast(1), 35);
+        Check.is("the other", x.deliveryForecast(0), 36);
     }
 
     private static void forecastOfTheDelivered() {
